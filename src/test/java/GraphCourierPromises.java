@@ -371,7 +371,7 @@ public final class GraphCourierPromises {
         GraphCourier x = new GraphCourier();
         int[][] rows = {{0, 4, 0}, {127, 4, 127}, {128, 4, 129, 0}, {16383, 4, 255, 127},
             {16384, 4, 129, 128, 0}, {2097151, 4, 255, 255, 127}, {2097152, 4, 128, 192, 128, 0},
-            {268435455, 4, 191, 255, 255, 255}, {-1, 4, 255, 255, 255, 255},
+            {19088743, 4, 132, 198, 197, 103}, {268435455, 4, 191, 255, 255, 255}, {-1, 4, 255, 255, 255, 255},
             {-268435456, 4, 192, 128, 128, 0}};
         for (int[] row : rows) {
             int[] written = java.util.Arrays.copyOfRange(row, 1, row.length);
@@ -400,6 +400,8 @@ public final class GraphCourierPromises {
         rowIs("text", x, 6, 5, 'a', 'b');
         x.encode(textValue(""));
         rowIs("empty text", x, 6, 1);
+        x.encode(textValue("\1\1\1\1\1\1\1"));
+        rowIs("lowest letters", x, 6, 15, 1, 1, 1, 1, 1, 1, 1);
         x.array();
         x.append(2, textValue("ab"));
         x.append(2, thing(0));
@@ -448,6 +450,31 @@ public final class GraphCourierPromises {
         GraphCourier y = withNest(13);
         badState("thirteen arrays", () -> y.encode(thing(0)));
         due("nothing written", y.size(), 0);
+    }
+
+    private static void encodeLimitsOfPairs() {
+        GraphCourier x = new GraphCourier();
+        x.traits(0, true, text("m"), 0, 0);
+        for (int i = 0; i < 13; i++) {
+            x.array();
+            if (i > 0) {
+                x.put(i - 1, text("k"), thing(i));
+            }
+        }
+        due("twelve by pairs", x.encode(thing(1)), 48);
+        badState("thirteen by pairs", () -> x.encode(thing(0)));
+        x.clear();
+        x.traits(0, true, text("m"), 0, 0);
+        for (int i = 0; i < 13; i++) {
+            x.object(0);
+            if (i > 6) {
+                x.put(i - 1, text("k"), thing(i));
+            } else if (i > 0) {
+                x.set(i - 1, 0, thing(i));
+            }
+        }
+        due("twelve objects", x.encode(thing(1)), 53);
+        badState("thirteen objects", () -> x.encode(thing(0)));
     }
 
     private static void encodeLongest() {
@@ -530,6 +557,23 @@ public final class GraphCourierPromises {
         due("second", x.traitsOf(4), 2);
         due("third", x.traitsOf(5), 3);
         due("place 2 is the third", x.traitsOf(6), 3);
+    }
+
+    private static void decodeManyTexts() {
+        GraphCourier x = new GraphCourier();
+        int[] row = new int[0];
+        for (int i = 0; i < 17; i++) {
+            // array 0 has two items: arrays 1 .. 8, each inside of the one before, and 9 .. 16 likewise
+            row = join(row, 9, i == 0 ? 5 : i == 8 ? 1 : 3);
+            for (int k = 0; k < 6; k++) {
+                row = join(row, 3, 'a' + k, 6, 3, 'g' + k);
+            }
+            row = join(row, 1);
+        }
+        // 17 arrays with 12 texts each, all told in full: the last one stands at place 203
+        row = join(row, 6, 128 + 406 / 128, 406 % 128);
+        reads("place 203", x, thing(0), row);
+        due("it is the last text", x.item(16, 0), textValue("l"));
     }
 
     private static void decodeUndone() {
@@ -876,6 +920,30 @@ public final class GraphCourierPromises {
             x.array();
             due("empty array " + i, x.count(i) + x.pairs(i), 0);
         }
+        leavesNoTrace();
+    }
+
+    private static void leavesNoTrace() {
+        GraphCourier x = new GraphCourier();
+        x.wide(1);
+        x.wide(1);
+        x.date(5);
+        x.array();
+        x.put(1, 'k', NULL);
+        x.clear();
+        x.wide(1);
+        x.array();
+        x.array();
+        due("what was a date is an array as any", x.same(thing(0), thing(1)), true);
+        x.put(1, 'k', TRUE);
+        due("a new value", x.pair(1, 0, false), TRUE);
+        x.clear();
+        x.array();
+        x.wide(1);
+        due("a thing that was there", x.same(thing(0), thing(1)), false);
+        due("the other way round", x.same(thing(1), thing(0)), false);
+        due("a wide that was there", x.same(wideValue(0), wideValue(1)), false);
+        due("the other way round", x.same(wideValue(1), wideValue(0)), false);
     }
 
     public static void main(String[] args) {
@@ -895,9 +963,11 @@ public final class GraphCourierPromises {
         encodeEach();
         encodeObjects();
         encodeLimits();
+        encodeLimitsOfPairs();
         encodeLongest();
         decodeValues();
         decodeTraits();
+        decodeManyTexts();
         decodeUndone();
         faultEnds();
         faultKinds();
