@@ -651,7 +651,8 @@ public final class GraphCourierReading extends Check {
         faultAt("an object's", 21, join(join(new int[] {10, 11, 1}, six), 3, 'g', 0, 1));
         faultAt("before its value is read", 20, join(join(new int[] {9, 1}, six), 3, 'g'));
         faultAt("one of the six", 20, join(join(new int[] {9, 1}, six), 0, 0, 1));
-        faultAt("the row's end", 20, join(new int[] {9, 1}, six));
+        faultAt("the row's end before it", 20, join(new int[] {9, 1}, six));
+        faultAt("the row's end inside of it", 22, join(join(new int[] {9, 1}, six), 5, 'g'));
     }
 
     // Which fault, and what is left
